@@ -760,7 +760,7 @@ public final class SignReforms {
             if (spelling == 0) {
                 return WITHOUT_LETTERS;
             }
-            for (int s = 0; hasSign(s); s++) {
+            for (int s = 0; s < MOST_SIGNS && hasSign(s); s++) {
                 if (state.guilds[s] == g && state.rights[s] == spelling) {
                     return SAME_SPELLING;
                 }
@@ -784,7 +784,7 @@ public final class SignReforms {
             if (!state.decrees.has(k)) {
                 return IMPOSSIBLE;
             }
-            for (int s = 0; hasSign(s); s++) {
+            for (int s = 0; s < MOST_SIGNS && hasSign(s); s++) {
                 planned[s] = state.decrees.spellingWithout(k, state.words[s]);
             }
             int reason = reasonAgainstPlan();
@@ -797,19 +797,19 @@ public final class SignReforms {
 
         /** A new decree comes behind all others: it makes of the right spellings what they would be. */
         int reasonAgainstDecree(int kind, int a, int b, int c) {
-            for (int s = 0; hasSign(s); s++) {
+            for (int s = 0; s < MOST_SIGNS && hasSign(s); s++) {
                 planned[s] = Words.decreed(kind, a, b, c, state.rights[s]);
             }
             return reasonAgainstPlan();
         }
 
         private int reasonAgainstPlan() {
-            for (int s = 0; hasSign(s); s++) {
+            for (int s = 0; s < MOST_SIGNS && hasSign(s); s++) {
                 if (planned[s] == 0) {
                     return WITHOUT_LETTERS;
                 }
             }
-            for (int s = 0; hasSign(s); s++) {
+            for (int s = 0; s < MOST_SIGNS && hasSign(s); s++) {
                 for (int other = 0; other < s; other++) {
                     if (state.guilds[s] == state.guilds[other] && planned[s] == planned[other]) {
                         return SAME_SPELLING;
@@ -855,7 +855,7 @@ public final class SignReforms {
 
         private void fineWrongSigns() {
             int fine = state.settings[FINE_OF_A_MONTH];
-            for (int s = 0; hasSign(s); s++) {
+            for (int s = 0; s < MOST_SIGNS && hasSign(s); s++) {
                 if (isWrong(s)) {
                     state.signFines[s] += fine;
                     state.guildFines[state.guilds[s]] += fine;
@@ -889,7 +889,7 @@ public final class SignReforms {
             int paid = 0;
             for (int letters = 1; letters <= MOST_LETTERS; letters++) {
                 int cost = letters * state.settings[COINS_FOR_A_LETTER];
-                for (int s = 0; hasSign(s); s++) {
+                for (int s = 0; s < MOST_SIGNS && hasSign(s); s++) {
                     if (lettersWrong(s) == letters && cost <= left) {
                         left -= cost;
                         paid++;
@@ -920,7 +920,7 @@ public final class SignReforms {
 
         int wrongSigns() {
             int wrong = 0;
-            for (int s = 0; hasSign(s); s++) {
+            for (int s = 0; s < MOST_SIGNS && hasSign(s); s++) {
                 wrong += isWrong(s) ? 1 : 0;
             }
             return wrong;
@@ -936,7 +936,7 @@ public final class SignReforms {
 
         private int lettersOf(int[] spellings) {
             int letters = 0;
-            for (int s = 0; hasSign(s) && s < spellings.length; s++) {
+            for (int s = 0; s < spellings.length && hasSign(s); s++) {
                 letters += Words.letters(spellings[s]);
             }
             return letters;
@@ -944,7 +944,7 @@ public final class SignReforms {
 
         private int costOfAll() {
             int coins = 0;
-            for (int s = 0; hasSign(s); s++) {
+            for (int s = 0; s < MOST_SIGNS && hasSign(s); s++) {
                 coins += costOf(s);
             }
             return coins;
@@ -952,7 +952,7 @@ public final class SignReforms {
 
         private int signsOfGuild(int g, boolean wrongAlone) {
             int count = 0;
-            for (int s = 0; hasSign(s); s++) {
+            for (int s = 0; s < MOST_SIGNS && hasSign(s); s++) {
                 if (state.guilds[s] == g && (!wrongAlone || isWrong(s))) {
                     count++;
                 }

@@ -14,6 +14,7 @@ public final class SimulationTest {
         promise26OtherTurns();
         promise26WhatIsLeftOut();
         promise26ManyTurns();
+        promise26FinesModulo10000();
         promise26ChangesNothing();
         promise26Throws();
         CHECK.end();
@@ -105,6 +106,19 @@ public final class SimulationTest {
                 }
             }
         }
+    }
+
+    /** Eight wrong signs and the dearest fine: 15260 and 20300 coins in these turns. */
+    private static void promise26FinesModulo10000() {
+        String text = "Rs0112.s1112.s2112.s3112.s0122.s1122.s2122.s3122.d1m01";
+        SignReforms x = Towns.of(text);
+        Model model = Model.of(text);
+        x.set(1, 20);
+        model.set(1, 20);
+        CHECK.same("simulate(129, 60)", 52601268, x.simulate(129, 60));
+        CHECK.same("simulate(129, 60) of the model", 52601268, model.simulate(129, 60));
+        CHECK.same("simulate(1944365, 60)", 3001248, x.simulate(1944365, 60));
+        CHECK.same("simulate(1944365, 60) of the model", 3001248, model.simulate(1944365, 60));
     }
 
     private static void promise26ChangesNothing() {

@@ -93,6 +93,8 @@ public final class TextTest {
         due("Rr9", -1);
         due("Rr", 2);
         due("Rra", 2);
+        due("Rr:", 2);
+        due("Rr/", 2);
         due("Rp0", -1);
         due("Rp7", -1);
         due("Rp8", 2);
@@ -100,6 +102,7 @@ public final class TextTest {
         due("Ry1", -1);
         due("Ry9", -1);
         due("Ry0", 2);
+        due("Ry:", 2);
         due("Ry", 2);
         due("Rd1o2j345r9p7m60y9s3123456.", -1);
         due("Rd1o2j345r9p7m60y9s3123456.\u00e9", 27);
@@ -135,6 +138,9 @@ public final class TextTest {
         due("Rm6", 3);
         due("Rm7", 2);
         due("Rm1a", 3);
+        due("Rm1:", 3);
+        due("Rm0:", 3);
+        due("Rm1/", 3);
         due("Rm011", 4);
     }
 
