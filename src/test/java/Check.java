@@ -1,4 +1,5 @@
 import java.util.function.Consumer;
+import java.util.function.ObjIntConsumer;
 import java.util.function.Supplier;
 
 /** Counts the answers that are not the ones that are due, and prints each. */
@@ -47,6 +48,34 @@ final class Check {
 
     void state(String what, Supplier<SignReforms> maker, Consumer<SignReforms> call) {
         refused(what, IllegalStateException.class, maker, call);
+    }
+
+    /** The call is good for the least and the most number, and refused beside and far behind them. */
+    void range(String what, Class<? extends RuntimeException> due, Supplier<SignReforms> maker, int least, int most,
+            ObjIntConsumer<SignReforms> call) {
+        for (int good : new int[] {least, most}) {
+            accepted(what + " of " + good, maker, x -> call.accept(x, good));
+        }
+        for (int bad : new int[] {least - 1, most + 1, Integer.MIN_VALUE, Integer.MAX_VALUE}) {
+            refused(what + " of " + bad, due, maker, x -> call.accept(x, bad));
+        }
+    }
+
+    void indexRange(String what, Supplier<SignReforms> maker, int least, int most, ObjIntConsumer<SignReforms> call) {
+        range(what, IndexOutOfBoundsException.class, maker, least, most, call);
+    }
+
+    void argumentRange(String what, Supplier<SignReforms> maker, int least, int most,
+            ObjIntConsumer<SignReforms> call) {
+        range(what, IllegalArgumentException.class, maker, least, most, call);
+    }
+
+    void accepted(String what, Supplier<SignReforms> maker, Consumer<SignReforms> call) {
+        try {
+            call.accept(maker.get());
+        } catch (RuntimeException e) {
+            report(what + " throws " + e.getClass().getName());
+        }
     }
 
     private void report(String text) {

@@ -5,8 +5,6 @@ import java.util.function.Supplier;
 public final class SimulationTest {
     private static final Check CHECK = new Check("SimulationTest");
     private static final String TEXT = "Rs0112233.s112121212.s1345.s26655.o1j125d3m02";
-    private static final long FACTOR = 6364136223846793005L;
-    private static final long SUMMAND = 1442695040888963407L;
 
     public static void main(String[] args) {
         promise26Signs();
@@ -20,15 +18,6 @@ public final class SimulationTest {
         CHECK.end();
     }
 
-    /** The seed from which the first turn computes r. */
-    private static long seedOf(int r, int low) {
-        long inverse = FACTOR;
-        for (int i = 0; i < 6; i++) {
-            inverse *= 2 - FACTOR * inverse;
-        }
-        return (((long) r << 33 | low) - SUMMAND) * inverse;
-    }
-
     private static void turn(String text, int q, int kind, Consumer<SignReforms> action) {
         SignReforms x = Towns.of(text);
         SignReforms done = Towns.of(text);
@@ -36,17 +25,17 @@ public final class SimulationTest {
         action.accept(done);
         int due = 10000 * (done.about(6) - before) + 100 * done.about(10) + 10 * done.about(2) + done.about(0);
         String told = "simulate of a turn with q " + q + " and " + kind + " behind " + text;
-        CHECK.same(told, due, x.simulate(seedOf(8 * q + kind, 0), 1));
-        CHECK.same(told + " again", due, x.simulate(seedOf(8 * q + kind, 0x7fffffff), 1));
+        CHECK.same(told, due, x.simulate(Seeds.of(8 * q + kind), 1));
+        CHECK.same(told + " again", due, x.simulate(Seeds.of(8 * q + kind, 0x7fffffff), 1));
     }
 
     private static void promise26Signs() {
-        CHECK.same("a sign of a letter", 101, new SignReforms().simulate(seedOf(0, 0), 1));
-        CHECK.same("a sign of eight letters", 801, new SignReforms().simulate(seedOf(8 * 93, 0), 1));
-        CHECK.same("without its letter 5", 601, Towns.of("Rd5").simulate(seedOf(8 * 93, 0), 1));
-        CHECK.same("without its letter 3", 501, Towns.of("Rd3").simulate(seedOf(8 * 93 + 1, 0), 1));
-        CHECK.same("its guild has it", 801, Towns.of("Rs131531531.").simulate(seedOf(8 * 93, 0), 1));
-        CHECK.same("another guild has it", 1602, Towns.of("Rs231531531.").simulate(seedOf(8 * 93, 0), 1));
+        CHECK.same("a sign of a letter", 101, new SignReforms().simulate(Seeds.of(0), 1));
+        CHECK.same("a sign of eight letters", 801, new SignReforms().simulate(Seeds.of(8 * 93), 1));
+        CHECK.same("without its letter 5", 601, Towns.of("Rd5").simulate(Seeds.of(8 * 93), 1));
+        CHECK.same("without its letter 3", 501, Towns.of("Rd3").simulate(Seeds.of(8 * 93 + 1), 1));
+        CHECK.same("its guild has it", 801, Towns.of("Rs131531531.").simulate(Seeds.of(8 * 93), 1));
+        CHECK.same("another guild has it", 1602, Towns.of("Rs231531531.").simulate(Seeds.of(8 * 93), 1));
         turn("Rd2", 93, 0, x -> x.sign(1, 31531531));
         turn("Rj315", 93, 1, x -> x.sign(1, 31531531));
         turn("Rj545", 174, 0, x -> x.sign(2, 6543));
