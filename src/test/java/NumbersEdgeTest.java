@@ -379,13 +379,16 @@ public final class NumbersEdgeTest {
 
     private static void right(String word, String decrees, int due) {
         SignReforms x = Towns.of("Rs0" + word + "." + decrees);
-        CHECK.same("right(0, 0) of " + word + " by " + decrees, due, x.right(0, 0));
-        CHECK.same("right(0, 1) of " + word + " by " + decrees, due, x.right(0, 1));
+        for (int call = 1; call <= 2; call++) {
+            CHECK.same("right(0, 0) of " + word + " by " + decrees, due, x.right(0, 0));
+            CHECK.same("right(0, 1) of " + word + " by " + decrees, due, x.right(0, 1));
+        }
     }
 
     /** "with what each decree holds back till it knows what follows": at the end, nothing follows. */
     private static void promise10HeldBack() {
         right("1", "j121j122j123j124j125j126j131j132j133j134", 1);
+        right("1", "j112", 1);
         right("1", "o1o1o1o1o1o1o1o1o1o1", 1);
         right("12", "j134j245", 12);
         right("123", "j124j345j451", 43);

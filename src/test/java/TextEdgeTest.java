@@ -330,7 +330,7 @@ public final class TextEdgeTest {
         x.decree(0, 1, 0, 0);
         x.decree(0, 6, 0, 0);
         x.set(0, 20);
-        x.set(1, 0);
+        x.set(1, 19);
         x.months(3);
         x.amnesty(9);
         x.paint(0);
@@ -345,6 +345,12 @@ public final class TextEdgeTest {
         SignReforms x = usedTown("R");
         CHECK.same("load of R", 0, x.load());
         CHECK.same("all there is", View.ofAll(Towns.write(new SignReforms(), "R")), View.ofAll(x));
+        SignReforms z = usedTown("Rs1123.s265.");
+        z.load();
+        CHECK.same("fines for a sign at the place of another", 0, z.signOf(0, 7));
+        CHECK.same("its paintings", 0, z.signOf(0, 6));
+        CHECK.same("fines of its guild", 0, z.guildOf(1, 2));
+        CHECK.same("fines", 0, z.about(6));
         SignReforms y = usedTown("Rs1123.d1m01p0");
         y.load();
         CHECK.same("paintings of the new sign", 1, y.signOf(0, 6));
@@ -352,12 +358,9 @@ public final class TextEdgeTest {
         CHECK.same("fines of the guild", 3, y.guildOf(1, 2));
         CHECK.same("paint of the guild", 4, y.guildOf(1, 3));
         CHECK.same("the latest amnesty", -1, y.about(5));
-        CHECK.accepted("an amnesty behind load", () -> Towns.of("Ry9"), z -> {
-            z.load();
-            z.clearText();
-            z.append('R');
-            z.load();
-            z.amnesty(9);
+        CHECK.accepted("an amnesty behind load", () -> usedTown("R"), w -> {
+            w.load();
+            w.amnesty(9);
         });
     }
 
@@ -443,8 +446,10 @@ public final class TextEdgeTest {
         leftOut("Rd1d2d3d4d5d6d1d2d3r9", 1);
         leftOut("Rp0p7", 2);
         leftOut("Rs01.p1", 1);
-        leftOut("Ry1y1", 1);
+        leftOut("Ry1", 0);
+        leftOut("Ry1y1y1", 2);
         leftOut("Ry9m08y1m03y1m01y1", 2);
+        leftOut("Ry9m11y1y2y3m01y1", 3);
     }
 
     /** "and signs, decrees and revokings that are refused, are left out" */

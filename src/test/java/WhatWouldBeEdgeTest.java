@@ -180,6 +180,10 @@ public final class WhatWouldBeEdgeTest {
         payable(Towns.of(EIGHT + "d1p0p1p2p3p4p5p6"), 999, 1);
         payable(Towns.of(EIGHT + "d1r0"), 999, 0);
         payable(Towns.of(EIGHT + "d1"), 999, 8);
+        SignReforms x = Towns.of(EIGHT + "d1");
+        x.clearText();
+        Towns.write(x, "Rs012.d1").load();
+        payable(x, 999, 1);
     }
 
     /** "for at most so many coins together" */
