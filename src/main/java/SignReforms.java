@@ -473,25 +473,29 @@ public final class SignReforms {
             for (int j = 0; j <= MOST_LETTERS; j++) {
                 row[j] = j;
             }
+            int apart = Words.letters(to);
             int rest = from;
             for (int i = 0; i < MOST_LETTERS && rest != 0; i++) {
-                nextRow(rest % 10, to);
+                apart = lastOfNextRow(rest % 10, to);
                 rest /= 10;
             }
-            return row[Words.letters(to)];
+            return apart;
         }
 
         /** Both words are read from their ends: that makes no difference to how far they are apart. */
-        private void nextRow(int letter, int to) {
+        private int lastOfNextRow(int letter, int to) {
             int diagonal = row[0];
             row[0]++;
+            int last = row[0];
             int rest = to;
             for (int j = 1; j <= MOST_LETTERS && rest != 0; j++) {
                 int changed = diagonal + (rest % 10 == letter ? 0 : 1);
                 diagonal = row[j];
-                row[j] = Math.min(changed, 1 + Math.min(row[j], row[j - 1]));
+                last = Math.min(changed, 1 + Math.min(diagonal, last));
+                row[j] = last;
                 rest /= 10;
             }
+            return last;
         }
     }
 
@@ -513,7 +517,7 @@ public final class SignReforms {
         }
 
         boolean has(int k) {
-            return k >= 0 && k < count;
+            return k >= 0 && k < count && k < MOST_DECREES;
         }
 
         boolean areFull() {
@@ -556,7 +560,7 @@ public final class SignReforms {
         /** The spelling that would be right if the decree k were not; NONE leaves out no decree. */
         int spellingWithout(int k, int word) {
             int spelling = word;
-            for (int i = 0; i < count && i < MOST_DECREES; i++) {
+            for (int i = 0; i < MOST_DECREES && has(i); i++) {
                 int at = i * NUMBERS;
                 if (i != k) {
                     spelling = Words.decreed(numbers[at], numbers[at + 1], numbers[at + 2],
@@ -591,7 +595,7 @@ public final class SignReforms {
         /** At the end of the word, each decree lets go of what it holds behind what reaches it. */
         private int through(Decrees decrees, int letter, boolean atEnd) {
             int moving = letter;
-            for (int k = 0; k < decrees.count && k < MOST_DECREES; k++) {
+            for (int k = 0; k < MOST_DECREES && decrees.has(k); k++) {
                 moving = pastDecree(decrees, k, moving);
                 if (atEnd) {
                     moving = joinedTo(moving, held[k]);
@@ -612,6 +616,9 @@ public final class SignReforms {
 
         /** What comes out of the decree k when a letter comes to it: no letter, one, or two. */
         private int let(Decrees decrees, int k, int letter) {
+            if (!decrees.has(k)) {
+                return letter;
+            }
             int kind = decrees.number(k, 0);
             boolean isFirst = letter == decrees.number(k, 1);
             if (kind == DROP) {
@@ -708,10 +715,13 @@ public final class SignReforms {
         }
 
         boolean isWrong(int s) {
-            return state.painted[s] != state.rights[s];
+            return hasSign(s) && state.painted[s] != state.rights[s];
         }
 
         int lettersWrong(int s) {
+            if (!hasSign(s)) {
+                return 0;
+            }
             return ruler.measured(state.painted[s], state.rights[s]);
         }
 
@@ -834,7 +844,7 @@ public final class SignReforms {
                 return NONE;
             }
             int coins = costOf(s);
-            state.guildPaint[state.guilds[s]] += coins;
+            charge(state.guildPaint, s, coins);
             state.painted[s] = state.rights[s];
             state.paintings[s]++;
             return coins;
@@ -858,8 +868,16 @@ public final class SignReforms {
             for (int s = 0; s < MOST_SIGNS && hasSign(s); s++) {
                 if (isWrong(s)) {
                     state.signFines[s] += fine;
-                    state.guildFines[state.guilds[s]] += fine;
+                    charge(state.guildFines, s, fine);
                 }
+            }
+        }
+
+        /** Adds to what the guild of a sign pays. */
+        private void charge(int[] guildCoins, int s, int coins) {
+            int g = hasSign(s) ? state.guilds[s] : NONE;
+            if (g >= 0 && g < guildCoins.length) {
+                guildCoins[g] += coins;
             }
         }
 
@@ -1110,7 +1128,9 @@ public final class SignReforms {
         }
 
         void emptySlots() {
-            Arrays.fill(filled, false);
+            for (int i = 0; i < SLOTS; i++) {
+                filled[i] = false;
+            }
         }
     }
 
